@@ -1,0 +1,69 @@
+import java.lang.reflect.Method;
+import java.lang.reflect.Modifier;
+import java.nio.file.Files;
+import java.nio.file.Path;
+import java.util.Arrays;
+import java.util.TreeSet;
+import java.util.regex.Pattern;
+
+/** The public face is the document's and no more, and the source keeps clear of what LANGUAGE.md bars by name. */
+public final class FaceTests {
+    private static final String[] FACE = {
+        "int write(int)", "int wipe()", "int fault()", "int county()", "int person(int,int)",
+        "int oath(int,int)", "int day()", "int drum(int,int)", "int swear(int)", "int form(int)",
+        "int move(int,int)", "int wool(int)", "int undo()", "int later(int,int)", "int lasts(int)",
+        "int best(int,int,int)", "int frees(int,int)", "int judge(int,long)", "int hear(int,int,int)",
+        "int unhear()", "int which(int)", "int share(int,boolean)", "int rests(int,int,int)",
+        "int comes(int,int,int,boolean)", "long seed(long)", "int years(int)", "int keep(int)",
+        "int again(int)", "int count(int)"};
+
+    private static final String[] BARRED = {
+        "throw", "throws", "try", "catch", "synchronized", "assert", "import", "package", "->", "::",
+        "\\w+Exact", "System\\.(?!arraycopy)\\w+", "Random", "Thread", "protected", "while"};
+
+    public static void main(String[] args) throws Exception {
+        Check check = new Check();
+        TreeSet<String> open = new TreeSet<>();
+        TreeSet<String> closed = new TreeSet<>();
+        for (Method m : ClapOaths.class.getDeclaredMethods()) {
+            if (Modifier.isPrivate(m.getModifiers())) {
+                closed.add(m.getName());
+            } else {
+                open.add(told(m));
+            }
+        }
+        check.due("methods " + open, open.equals(new TreeSet<>(Arrays.asList(FACE))) ? 1 : 0, 1);
+        for (String line : FACE) {
+            String name = line.substring(line.indexOf(' ') + 1, line.indexOf('('));
+            check.due("a private method named " + name, closed.contains(name) ? 1 : 0, 0);
+        }
+        check.due("final", Modifier.isFinal(ClapOaths.class.getModifiers()) ? 1 : 0, 1);
+        check.due("constructors", ClapOaths.class.getConstructors().length, 1);
+        check.due("constants", ClapOaths.class.getFields().length, 5);
+        check.due("UNKNOWN", ClapOaths.UNKNOWN, -1);
+        check.due("OUTSIDE", ClapOaths.OUTSIDE, -2);
+        check.due("STATE", ClapOaths.STATE, -3);
+        check.due("FULL", ClapOaths.FULL, -4);
+        check.due("NONE", ClapOaths.NONE, -9);
+        sourceKeepsTheRules(check);
+        check.end("FaceTests");
+    }
+
+    private static String told(Method m) {
+        StringBuilder line = new StringBuilder(m.getReturnType().getName()).append(' ').append(m.getName()).append('(');
+        for (int i = 0; i < m.getParameterCount(); i++) {
+            line.append(i == 0 ? "" : ",").append(m.getParameterTypes()[i].getName());
+        }
+        return line.append(')').toString();
+    }
+
+    private static void sourceKeepsTheRules(Check check) throws Exception {
+        String source = Files.readString(Path.of("src/main/java/ClapOaths.java"));
+        String bare = source.replaceAll("(?s)/\\*.*?\\*/", " ").replaceAll("//[^\n]*", " ");
+        for (String word : BARRED) {
+            String edge = Character.isLetter(word.charAt(0)) ? "\\b" : "";
+            check.due("the source has " + word, Pattern.compile(edge + word + edge).matcher(bare).find() ? 1 : 0, 0);
+        }
+        check.due("signs beyond 127", source.chars().anyMatch(c -> c > 127) ? 1 : 0, 0);
+    }
+}
