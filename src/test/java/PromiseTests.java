@@ -111,6 +111,9 @@ public final class PromiseTests {
         faultOf("LP00P00O10n", 10);
         faultOf("LP00P00O105", 11);
         faultOf("LP00P00O1050", 11);
+        faultOf("LP00P00O10:n", 10);
+        faultOf("LP00P00O10/n", 10);
+        faultOf("LP00P00O105N", 11);
         faultOf("LP00P00O105n", NONE);
         faultOf("LP00P00O105nO0191", 16);
         faultOf("LP00P00O105nO0190", NONE);
@@ -348,6 +351,8 @@ public final class PromiseTests {
         due("16: unknown", x.lasts(2), UNKNOWN);
         due("16: unknown", x.lasts(-1), UNKNOWN);
         due("16: first day", Check.of("LP20P40C33O015n").lasts(0), 1);
+        // Skies come round in five days at most, so no oath is freed first by a later one.
+        due("16: fifth day", Check.of("LP20P40QQQQC33O015n").lasts(0), 5);
     }
 
     private static void best() {
@@ -366,6 +371,7 @@ public final class PromiseTests {
         ClapOaths y = Check.of("LP00P00O017n");
         y.day();
         due("17: with what is there already", y.best(0, 2, 1), 21);
+        due("17: the last place", Check.of("LP00P00C08O017n").best(0, 1, 0), 9);
     }
 
     private static void frees() {
@@ -388,6 +394,9 @@ public final class PromiseTests {
         due("18: none", y.frees(1, 0), NONE);
         due("18: none", y.frees(1, 1), NONE);
         due("18: wool at both ends", Check.of("LP01P91O015n").frees(1, 0), NONE);
+        due("18: the last place", Check.of("LP90P90O015n").frees(1, 1), 9);
+        due("18: between wool and none", Check.of("LP00P81O015n").frees(1, 0), 6);
+        due("18: one of two", Check.of("LP01P91P40O015nO024n").frees(2, 0), 3);
     }
 
     private static void judge() {
@@ -409,6 +418,10 @@ public final class PromiseTests {
         due("19: another kind", Check.of(KINDS).judge(1, 501L), 0);
         due("19: no such oath", x.judge(1, 602L), 0);
         due("19: any drum", x.judge(1, 199L), NONE);
+        due("19: one day is one day", Check.of("LP20P40QC33O015n").judge(2, 600L), NONE);
+        due("19: two are two", Check.of("LP20P40QC33O015n").judge(3, 600L), 2);
+        due("19: wool in, and out", Check.of("LP20P40O015n").judge(4, 500500131600L), 3);
+        due("19: wool in", Check.of("LP20P40O015n").judge(3, 500131600L), NONE);
         due("19: a drum frees", x.judge(2, 131600L), 1);
         for (long wrong : new long[] {1, 10, 210, 310, 510, 610, 700, 800, 900, 999}) {
             due("19: no such doing " + wrong, x.judge(1, wrong), 0);
@@ -556,6 +569,74 @@ public final class PromiseTests {
             y.years(1);
         }
         due("27: thirty by one", y.seed(0), thirty);
+        yearsOneByOne();
+    }
+
+    /** A seed whose next number is the wanted one. */
+    private static long seedFor(int number) {
+        for (long v = 0; v < 100000; v++) {
+            if (numberOf(v) == number) {
+                return v;
+            }
+        }
+        throw new IllegalStateException("no seed for " + number);
+    }
+
+    private static long numberOf(long v) {
+        return ((v * 6364136223846793005L + 1442695040888963407L) >>> 33) % 40;
+    }
+
+    /** A seed whose next two numbers are the wanted ones. */
+    private static long seedFor(int first, int second) {
+        for (long v = 0; v < 1000000; v++) {
+            if (numberOf(v) == first && numberOf(v * 6364136223846793005L + 1442695040888963407L) == second) {
+                return v;
+            }
+        }
+        throw new IllegalStateException("no seed for " + first + ", " + second);
+    }
+
+    private static void yearsDue(ClapOaths x, int first, int second, int want) {
+        x.seed(seedFor(first, second));
+        due("27: " + first + ", then " + second, x.years(2), want);
+    }
+
+    private static void yearsOneByOne() {
+        ClapOaths drums = Check.of("LP30P60O019n");
+        for (int number = 0; number < 40; number++) {
+            drums.seed(seedFor(number));
+            due("27: number " + number, drums.years(1), number >= 3 && number <= 6 ? 0 : 1);
+        }
+        // Moved to 9 and to 0 a drum there is heard by both; elsewhere by one of them.
+        ClapOaths low = Check.of("LP00P50P50P50P50O015nO025nO035nO045n");
+        ClapOaths high = Check.of("LP90P50P50P50P50O015nO025nO035nO045n");
+        for (int person = 1; person <= 4; person++) {
+            yearsDue(low, 10 + 2 * person, 0, 7);
+            yearsDue(low, 11 + 2 * person, 0, 8);
+            yearsDue(high, 11 + 2 * person, 9, 7);
+            yearsDue(high, 10 + 2 * person, 9, 8);
+        }
+        ClapOaths freed = Check.of("LP00P00O010nO010nO010nO010nO0103");
+        for (int oath = 0; oath < 5; oath++) {
+            freed.form(oath);
+        }
+        for (int oath = 0; oath < 5; oath++) {
+            freed.seed(seedFor(20 + oath));
+            due("27: oath " + oath + " is sworn", freed.years(1), oath < 4 ? 1 : 0);
+        }
+        yearsDue(freed, 23, 24, 3);
+        ClapOaths woolly = Check.of("LP00P20P20P20P20O015nO025nO035nO045n");
+        for (int person = 1; person <= 4; person++) {
+            yearsDue(woolly, 25 + person, 0, 5);
+            yearsDue(woolly, 25 + person, 25 + person, 8);
+        }
+        ClapOaths claps = Check.of("LP00P90C99O019n");
+        for (int number = 30; number < 40; number++) {
+            claps.seed(seedFor(number));
+            due("27: a day by " + number, claps.years(1), 0);
+        }
+        claps.seed(seedFor(29));
+        due("27: no day by 29", claps.years(1), 1);
     }
 
     private static void keep() {
@@ -592,6 +673,10 @@ public final class PromiseTests {
         due("29: the row is empty", x.undo(), STATE);
         x.day();
         due("29: as often as one likes", x.again(1), 1);
+        x.day();
+        x.keep(0);
+        due("29: the other slot stays", x.again(1), 1);
+        due("29: and the new one is", x.again(0), 2);
     }
 
     private static void count() {
