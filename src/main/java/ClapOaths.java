@@ -790,8 +790,8 @@ public final class ClapOaths {
 
         /** The SKY of a DAY; NONE. */
         int skyOn(int day) {
-            // This machine's compiler has moved a division ahead of the test for 0 that guards it
-            // (SIGFPE under OpenJDK 17.0.15), so the divisor itself is kept above 0.
+            // Math.max is a precaution: OpenJDK 17.0.15 can move such a division ahead of the test
+            // that guards it (NOTES.md), so the divisor itself is kept above 0.
             return skies > 0 ? Math.floorMod(day, Math.max(1, skies)) : NONE;
         }
 
