@@ -12,7 +12,16 @@ final class Check {
         }
     }
 
-    /** Writes a text into a new object's place. */
+    void same(String what, String got, String want) {
+        if (got.equals(want)) {
+            right++;
+        } else {
+            wrong++;
+            System.out.println(what + ":\n  is     " + got + "\n  due is " + want);
+        }
+    }
+
+    /** Writes a text in place of the one that an object has. */
     static void tell(ClapOaths x, String text) {
         x.wipe();
         for (int i = 0; i < text.length(); i++) {

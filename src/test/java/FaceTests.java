@@ -1,8 +1,10 @@
+import java.lang.reflect.Field;
 import java.lang.reflect.Method;
 import java.lang.reflect.Modifier;
 import java.nio.file.Files;
 import java.nio.file.Path;
 import java.util.Arrays;
+import java.util.List;
 import java.util.TreeSet;
 import java.util.regex.Pattern;
 
@@ -16,6 +18,8 @@ public final class FaceTests {
         "int unhear()", "int which(int)", "int share(int,boolean)", "int rests(int,int,int)",
         "int comes(int,int,int,boolean)", "long seed(long)", "int years(int)", "int keep(int)",
         "int again(int)", "int count(int)"};
+
+    private static final List<String> CONSTANTS = List.of("UNKNOWN", "OUTSIDE", "STATE", "FULL", "NONE");
 
     private static final String[] BARRED = {
         "throw", "throws", "try", "catch", "synchronized", "assert", "import", "package", "->", "::",
@@ -37,6 +41,7 @@ public final class FaceTests {
             String name = line.substring(line.indexOf(' ') + 1, line.indexOf('('));
             check.due("a private method named " + name, closed.contains(name) ? 1 : 0, 0);
         }
+        membersAreClosed(check);
         check.due("final", Modifier.isFinal(ClapOaths.class.getModifiers()) ? 1 : 0, 1);
         check.due("constructors", ClapOaths.class.getConstructors().length, 1);
         check.due("constants", ClapOaths.class.getFields().length, 5);
@@ -47,6 +52,26 @@ public final class FaceTests {
         check.due("NONE", ClapOaths.NONE, -9);
         sourceKeepsTheRules(check);
         check.end("FaceTests");
+    }
+
+    /** All but the face and the classes inside is private, and what is static never changes. */
+    private static void membersAreClosed(Check check) {
+        for (Field field : ClapOaths.class.getDeclaredFields()) {
+            boolean open = Modifier.isPublic(field.getModifiers());
+            boolean constant = Modifier.isStatic(field.getModifiers()) && Modifier.isFinal(field.getModifiers());
+            boolean isFace = CONSTANTS.contains(field.getName()) && constant && field.getType() == int.class;
+            check.due("the field " + field.getName(), open == isFace && (open || Modifier.isPrivate(field.getModifiers())) ? 1 : 0, 1);
+        }
+        Class<?>[] inside = ClapOaths.class.getDeclaredClasses();
+        check.due("no more than twelve classes", inside.length < 12 ? 1 : 0, 1);
+        for (Class<?> one : inside) {
+            int is = one.getModifiers();
+            check.due("the class " + one.getName(), Modifier.isStatic(is) && !Modifier.isPublic(is) && !Modifier.isProtected(is) ? 1 : 0, 1);
+            for (Field field : one.getDeclaredFields()) {
+                boolean kept = !Modifier.isStatic(field.getModifiers()) || Modifier.isFinal(field.getModifiers());
+                check.due("the field " + one.getName() + "." + field.getName(), kept ? 1 : 0, 1);
+            }
+        }
     }
 
     private static String told(Method m) {

@@ -2,14 +2,19 @@ import java.util.Random;
 
 /** Long runs of calls, by a fixed seed, on ClapOaths and on Model: every answer must be the same. */
 public final class ModelTests {
-    private static final int RUNS = 1500;
-    private static final int CALLS = 220;
+    private static final int RUNS = 3000;
+    /** An object answers as promised for so many calls. */
+    private static final int CALLS = 512;
+    /** How many calls may come at once, and how many the look at everything takes at the end. */
+    private static final int AT_ONCE = 70;
+    private static final int EVERYTHING = 127;
 
     private final Check check = new Check();
     private final Random random;
     private ClapOaths x;
     private Model y;
     private String label;
+    private int calls;
 
     private ModelTests(long seed) {
         random = new Random(seed);
@@ -27,17 +32,20 @@ public final class ModelTests {
         x = new ClapOaths();
         y = new Model();
         label = "run " + run;
-        for (int i = 0; i < CALLS; i++) {
-            if (i == 0 || random.nextInt(90) == 0) {
+        calls = 0;
+        newCounty();
+        for (int i = 0; i < CALLS && calls + AT_ONCE + EVERYTHING <= CALLS; i++) {
+            if (random.nextInt(90) == 0) {
                 newCounty();
             } else {
                 call();
             }
-            if (random.nextInt(8) == 0) {
-                everything();
+            if (random.nextInt(12) == 0) {
+                counts();
             }
         }
         everything();
+        check.due(label + ": no more than " + CALLS + " calls, but " + calls, calls <= CALLS ? 1 : 0, 1);
     }
 
     private int upTo(int n) {
@@ -54,6 +62,7 @@ public final class ModelTests {
     }
 
     private void due(String call, long got, long want) {
+        calls++;
         check.due(label + ": " + call + " on " + y.text, got, want);
     }
 
@@ -158,10 +167,14 @@ public final class ModelTests {
         }
     }
 
-    private void everything() {
+    private void counts() {
         for (int what = -1; what <= 11; what++) {
             due("count " + what, x.count(what), y.count(what));
         }
+    }
+
+    private void everything() {
+        counts();
         for (int i = -1; i <= 5; i++) {
             for (int what = -1; what <= 6; what++) {
                 due("person " + i + " " + what, x.person(i, what), y.person(i, what));

@@ -572,39 +572,15 @@ public final class PromiseTests {
         yearsOneByOne();
     }
 
-    /** A seed whose next number is the wanted one. */
-    private static long seedFor(int number) {
-        for (long v = 0; v < 100000; v++) {
-            if (numberOf(v) == number) {
-                return v;
-            }
-        }
-        throw new IllegalStateException("no seed for " + number);
-    }
-
-    private static long numberOf(long v) {
-        return ((v * 6364136223846793005L + 1442695040888963407L) >>> 33) % 40;
-    }
-
-    /** A seed whose next two numbers are the wanted ones. */
-    private static long seedFor(int first, int second) {
-        for (long v = 0; v < 1000000; v++) {
-            if (numberOf(v) == first && numberOf(v * 6364136223846793005L + 1442695040888963407L) == second) {
-                return v;
-            }
-        }
-        throw new IllegalStateException("no seed for " + first + ", " + second);
-    }
-
     private static void yearsDue(ClapOaths x, int first, int second, int want) {
-        x.seed(seedFor(first, second));
+        x.seed(Seeds.whoseNextAre(first, second));
         due("27: " + first + ", then " + second, x.years(2), want);
     }
 
     private static void yearsOneByOne() {
         ClapOaths drums = Check.of("LP30P60O019n");
         for (int number = 0; number < 40; number++) {
-            drums.seed(seedFor(number));
+            drums.seed(Seeds.whoseNextAre(number));
             due("27: number " + number, drums.years(1), number >= 3 && number <= 6 ? 0 : 1);
         }
         // Moved to 9 and to 0 a drum there is heard by both; elsewhere by one of them.
@@ -621,7 +597,7 @@ public final class PromiseTests {
             freed.form(oath);
         }
         for (int oath = 0; oath < 5; oath++) {
-            freed.seed(seedFor(20 + oath));
+            freed.seed(Seeds.whoseNextAre(20 + oath));
             due("27: oath " + oath + " is sworn", freed.years(1), oath < 4 ? 1 : 0);
         }
         yearsDue(freed, 23, 24, 3);
@@ -632,10 +608,10 @@ public final class PromiseTests {
         }
         ClapOaths claps = Check.of("LP00P90C99O019n");
         for (int number = 30; number < 40; number++) {
-            claps.seed(seedFor(number));
+            claps.seed(Seeds.whoseNextAre(number));
             due("27: a day by " + number, claps.years(1), 0);
         }
-        claps.seed(seedFor(29));
+        claps.seed(Seeds.whoseNextAre(29));
         due("27: no day by 29", claps.years(1), 1);
     }
 
