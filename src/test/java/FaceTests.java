@@ -6,6 +6,7 @@ import java.nio.file.Path;
 import java.util.Arrays;
 import java.util.List;
 import java.util.TreeSet;
+import java.util.regex.Matcher;
 import java.util.regex.Pattern;
 
 /** The public face is the document's and no more, and the source keeps clear of what LANGUAGE.md bars by name. */
@@ -24,6 +25,13 @@ public final class FaceTests {
     private static final String[] BARRED = {
         "throw", "throws", "try", "catch", "synchronized", "assert", "import", "package", "->", "::",
         "\\w+Exact", "System\\.(?!arraycopy)\\w+", "Random", "Thread", "protected", "while"};
+
+    /** Of the library only what LANGUAGE.md lists, and of that only what the class needs. */
+    private static final List<String> LIBRARY = List.of("System.arraycopy", "Math.floorMod", "Math.max", "Math.min", "Integer.bitCount");
+
+    private static final int MOST_PARAMETERS = 7;
+    private static final int MOST_LINES = 60;
+    private static final int MOST_FIELDS = 20;
 
     public static void main(String[] args) throws Exception {
         Check check = new Check();
@@ -51,6 +59,10 @@ public final class FaceTests {
         check.due("FULL", ClapOaths.FULL, -4);
         check.due("NONE", ClapOaths.NONE, -9);
         sourceKeepsTheRules(check);
+        sizesAreKept(check, ClapOaths.class);
+        for (Class<?> inside : ClapOaths.class.getDeclaredClasses()) {
+            sizesAreKept(check, inside);
+        }
         check.end("FaceTests");
     }
 
@@ -90,5 +102,41 @@ public final class FaceTests {
             check.due("the source has " + word, Pattern.compile(edge + word + edge).matcher(bare).find() ? 1 : 0, 0);
         }
         check.due("signs beyond 127", source.chars().anyMatch(c -> c > 127) ? 1 : 0, 0);
+        Matcher library = Pattern.compile("\\b([A-Z][a-z]\\w*\\.\\w+)\\(").matcher(bare);
+        while (library.find()) {
+            check.due("the library's " + library.group(1), LIBRARY.contains(library.group(1)) ? 1 : 0, 1);
+        }
+        methodsAreShort(check, bare.split("\n"));
+    }
+
+    private static void sizesAreKept(Check check, Class<?> one) {
+        for (Method m : one.getDeclaredMethods()) {
+            check.due("parameters of " + m.getName(), m.getParameterCount() <= MOST_PARAMETERS ? 1 : 0, 1);
+        }
+        long fields = Arrays.stream(one.getDeclaredFields()).filter(f -> !Modifier.isStatic(f.getModifiers())).count();
+        check.due("fields of " + one.getName(), fields <= MOST_FIELDS ? 1 : 0, 1);
+    }
+
+    /** No method is long, and none but a constructor makes anything. */
+    private static void methodsAreShort(Check check, String[] lines) {
+        Pattern opening = Pattern.compile("( {4}| {8})(?! )(.*\\b(\\w+)\\([^()]*\\) \\{)");
+        Pattern constructor = Pattern.compile("(public )?[A-Z]\\w*\\(.*");
+        int methods = 0;
+        for (int from = 0; from < lines.length; from++) {
+            Matcher method = opening.matcher(lines[from]);
+            if (method.matches() && !method.group(3).matches("if|for|switch|while")) {
+                int to = from;
+                boolean makes = false;
+                while (!lines[to].equals(method.group(1) + "}")) {
+                    makes |= lines[to].matches(".*\\bnew\\b.*");
+                    to++;
+                }
+                methods++;
+                check.due("lines of " + method.group(3), to - from + 1 <= MOST_LINES ? 1 : 0, 1);
+                boolean mayMake = constructor.matcher(method.group(2)).matches();
+                check.due(method.group(3) + " makes something", makes && !mayMake ? 1 : 0, 0);
+            }
+        }
+        check.due("methods were found in the source", methods > FACE.length ? 1 : 0, 1);
     }
 }
